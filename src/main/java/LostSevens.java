@@ -1046,7 +1046,7 @@ public final class LostSevens {
         private boolean takeJoint() {
             int token = tape.token;
             int strength = strengthOf(token);
-            if (!canJoin(strength)) {
+            if (token == NOT || !canJoin(strength)) {
                 return refuse(CANT_STAND);
             }
             settle(strength);
