@@ -1,0 +1,125 @@
+/** Promise 26 (image). */
+public final class ImageTest {
+    private static final int NONE = LostSevens.NONE;
+
+    public static void main(String[] args) {
+        allComesBack();
+        whatIsNoPart();
+        takenAnew();
+        Due.close();
+    }
+
+    private static LostSevens told() {
+        LostSevens x = new LostSevens();
+        x.line(0, 1, 0, 0x80, 0x100, 1000);
+        x.line(1, 2, 1, 0, 0, 0);
+        Due.rules(x, 0, "5 to 77 when place=0;");
+        Due.rules(x, 1, "1 to none;");
+        x.state(99);
+        x.day();
+        Due.paper(x, "5718");
+        Due.seen(x, "1");
+        x.send(0, 0, 1, NONE, NONE);
+        Due.paper(x, "571");
+        x.look(0);
+        x.blank(1);
+        x.write(1, 4);
+        return x;
+    }
+
+    /** All that can be asked, one answer a line. */
+    private static String all(LostSevens x) {
+        StringBuilder all = new StringBuilder();
+        for (int what = 0; what < 14; what++) {
+            if (what != 6) {
+                all.append("tells ").append(what).append(' ').append(x.tells(what)).append('\n');
+            }
+        }
+        for (int line = 0; line < 3; line++) {
+            for (int what = 0; what < 20; what++) {
+                all.append("of ").append(x.of(line, what)).append('\n');
+            }
+        }
+        for (int i = 0; i < x.tells(2); i++) {
+            for (int what = 0; what < 4; what++) {
+                all.append("book ").append(x.book(i, what)).append('\n');
+            }
+        }
+        all.append(Due.message(x, 0)).append(' ').append(Due.message(x, 1)).append(' ')
+                .append(Due.came(x)).append('\n');
+        all.append(x.creep()).append(' ').append(x.cure(0, 0)).append(' ').append(x.cure(0, 1));
+        all.append(' ').append(x.clerks()).append(' ').append(Due.comes(x, 0, 0)).append(' ')
+                .append(Due.comes(x, 1, 1)).append('\n');
+        return all.toString();
+    }
+
+    private static void changeAll(LostSevens x) {
+        x.set(0, 0, 1);
+        x.set(0, 1, 2);
+        x.set(0, 2, 3);
+        x.set(0, 3, 3);
+        x.set(1, 4, 1);
+        x.line(4, 5, 0, 0, 0, 0);
+        Due.rules(x, 0, "8 to 1;8 to 2;");
+        Due.rules(x, 1, "");
+        Due.rules(x, 2, "1 to 5;");
+        x.day();
+        x.state(1);
+        Due.paper(x, "0000");
+        x.send(0, 0, 0, 0, 0);
+        Due.seen(x, "000");
+        x.look(0);
+        x.look(1);
+    }
+
+    private static void allComesBack() {
+        LostSevens x = told();
+        Due.due("no image", x.image(false), false);
+        Due.due("still there", x.tells(3), 1);
+        Due.due("taken", x.image(true), true);
+        String before = all(x);
+        for (int i = 0; i < 3; i++) {
+            changeAll(x);
+            Due.due("changed", all(x).equals(before), false);
+            Due.due("gone back", x.image(false), true);
+            Due.due("all", all(x), before);
+            Due.due("nothing to undo", x.tells(6), 0);
+        }
+        LostSevens y = told();
+        x.day();
+        y.day();
+        x.send(0, 0, 1, 1, NONE);
+        y.send(0, 0, 1, 1, NONE);
+        Due.due("all goes on", all(x), all(y));
+    }
+
+    private static void whatIsNoPart() {
+        LostSevens x = told();
+        x.feed(0x31746F32, 0x3B202020, 0x20202020, 0x20202020, 0x20202020);
+        x.image(true);
+        x.feed(0x31746F32, 0x3B202020, 0x20202020, 0x20202020, 0x20202020);
+        x.image(false);
+        Due.due("the tape stays", x.feed(0, 0, 0, 0, 0), 60);
+        x.text(0);
+        Due.due("a fault", x.fault(0), 1);
+        Due.due("its place", x.fault(1), 40);
+        x.image(false);
+        Due.due("the fault stays", x.fault(0), 1);
+        Due.due("its place stays", x.fault(1), 40);
+    }
+
+    private static void takenAnew() {
+        LostSevens x = told();
+        x.image(true);
+        x.day();
+        x.image(true);
+        String later = all(x);
+        x.day();
+        x.send(1, 1, NONE, NONE, NONE);
+        Due.due("undo goes on behind an image", x.image(true) && x.undo(), true);
+        x.image(false);
+        Due.due("the latest image holds the sending", x.tells(3), 2);
+        Due.due("and the day", x.tells(1), 3);
+        Due.due("not what was before", all(x).equals(later), false);
+    }
+}
