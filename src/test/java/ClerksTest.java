@@ -13,6 +13,10 @@ public final class ClerksTest {
         Due.due("nothing changed", x.clerks(), 12);
         Due.seen(x, "1661");
         Due.due("changed", x.clerks(), 3);
+        Due.seen(x, "9661");
+        Due.due("another first digit", x.clerks(), 0);
+        Due.seen(x, "1669");
+        Due.due("another last digit", x.clerks(), 0);
         Due.seen(x, "166");
         Due.due("too short", x.clerks(), 0);
         Due.seen(x, "16611");

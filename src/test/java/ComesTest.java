@@ -55,6 +55,7 @@ public final class ComesTest {
         so("9-3+2=8", true);
         so("7/2*2=6", true);
         so("8/2/2=2", true);
+        so("5/1=5", true);
         so("2*7/4=3", true);
         so("1-8/3=0-1", true);
         so("0-7<0-6", true);
@@ -76,6 +77,11 @@ public final class ComesTest {
         so("2>1", true);
         so("1>1", false);
         so("1=2", false);
+        so("2>1 and 1=1", true);
+        so("1<2 and 1=1", true);
+        so("not 2>1", false);
+        so("not 1<2", false);
+        so("not 1=1", false);
         so("not 1=2", true);
         so("not not 1=2", false);
         so("not 1=1 or 1=1", true);

@@ -13,7 +13,7 @@ public final class ImageTest {
         LostSevens x = new LostSevens();
         x.line(0, 1, 0, 0x80, 0x100, 1000);
         x.line(1, 2, 1, 0, 0, 0);
-        Due.rules(x, 0, "5 to 77 when place=0;");
+        Due.rules(x, 0, "5 to 8 when place=9;5 to 77 when place=0;5 to 6;");
         Due.rules(x, 1, "1 to none;");
         x.state(99);
         x.day();
@@ -54,6 +54,9 @@ public final class ImageTest {
     }
 
     private static void changeAll(LostSevens x) {
+        x.undo();
+        Due.paper(x, "1878");
+        x.send(1, 1, 1, 0, NONE);
         x.set(0, 0, 1);
         x.set(0, 1, 2);
         x.set(0, 2, 3);
@@ -76,6 +79,7 @@ public final class ImageTest {
         LostSevens x = told();
         Due.due("no image", x.image(false), false);
         Due.due("still there", x.tells(3), 1);
+        x.send(0, 0, NONE, NONE, NONE);
         Due.due("taken", x.image(true), true);
         String before = all(x);
         for (int i = 0; i < 3; i++) {
@@ -86,6 +90,7 @@ public final class ImageTest {
             Due.due("nothing to undo", x.tells(6), 0);
         }
         LostSevens y = told();
+        y.send(0, 0, NONE, NONE, NONE);
         x.day();
         y.day();
         x.send(0, 0, 1, 1, NONE);

@@ -42,6 +42,8 @@ public final class LooksTest {
         }
         Due.rules(x, 0, "7 to 1;");
         cureIs(x, 0, 1024, 0, 1023);
+        lookAt(x, 1, "77", "7");
+        cureIs(x, 1, 0, NONE, NONE);
         lookAt(x, 0, "", "");
         cureIs(x, 0, 1024, 0, 1023);
         lookAt(x, 0, "717", "1");
@@ -50,8 +52,6 @@ public final class LooksTest {
         cureIs(x, 0, 32, 0x89, 1023 - 6);
         lookAt(x, 0, "456789", "");
         cureIs(x, 0, 1, 0x3F9, 0x3F9);
-        lookAt(x, 1, "77", "7");
-        cureIs(x, 1, 0, NONE, NONE);
         lookAt(x, 2, "12", "21");
         cureIs(x, 2, 0, NONE, NONE);
         lookAt(x, 3, "12", "123");

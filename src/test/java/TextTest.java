@@ -11,6 +11,7 @@ public final class TextTest {
         wrongNumbers();
         tooMany();
         kinds();
+        manyTexts();
         Due.close();
     }
 
@@ -118,6 +119,20 @@ public final class TextTest {
     private static void tokens() {
         faulty("7 too 6;", 1, 2);
         faulty("7 tO 6;", 1, 2);
+        faulty("7 go 6;", 1, 2);
+        faulty("7 to 6 when may=1;", 1, 12);
+        faulty("7 to 6 when dax=1;", 1, 12);
+        faulty("7 to 6 when da=1;", 1, 12);
+        faulty("7 to 6 when xA=1;", 1, 12);
+        faulty("7 to 6 when 1=1Z;", 1, 15);
+        faulty("7 toZ", 1, 2);
+        faulty("7 toA", 1, 2);
+        faulty("7 toz", 1, 2);
+        faulty("7 toa", 1, 2);
+        faulty("7 to@", 1, 4);
+        faulty("7 to[", 1, 4);
+        faulty("7 to`", 1, 4);
+        faulty("7 to{", 1, 4);
         faulty("7 t o 6;", 1, 2);
         faulty("7 to nonewhen 1=1;", 1, 5);
         faulty("7 to 6 when dayday=1;", 1, 12);
@@ -170,6 +185,30 @@ public final class TextTest {
         Due.due("told anew", Due.rules(x, 2, ""), 0);
         for (int kind = 0; kind < 4; kind++) {
             Due.due("lines of " + kind, x.tells(10 + kind), kind == 2 ? 0 : kind + 1);
+        }
+    }
+
+    /** Whatever was read before, right or wrong, the latest rules hold and no others. */
+    private static void manyTexts() {
+        LostSevens x = new LostSevens();
+        x.line(0, 1, 0, 0, 0, 0);
+        Due.paper(x, "7");
+        String condition = "1=2" + " or 1=2".repeat(44);
+        for (int i = 0; i < 5; i++) {
+            Due.due("a long text", Due.rules(x, 0, "7 to 8 when " + condition + " or 3=3;"), 1);
+            Due.due("holds", x.comes(0, 0, 0), 8);
+            Due.due("a faulty one", Due.rules(x, 0, "7 to 6;7 to 8 when " + condition), NONE);
+            Due.due("still holds", x.comes(0, 0, 0), 8);
+            Due.due("much is open", Due.rules(x, 0, "7 to 6 when not(not(not(1+2*3"), NONE);
+            Due.due("its opposite", Due.rules(x, 0, "7 to 8 when " + condition + ";"), 1);
+            Due.due("does not hold", x.comes(0, 0, 0), 7);
+            Due.due("open again", Due.rules(x, 0, "7 to 6 when ((((((((1=2 and 3*4"), NONE);
+            Due.due("all may be open", Due.rules(x, 0, "7 to 5 when ((((((((1=1))))))));"), 1);
+            Due.due("and hold", x.comes(0, 0, 0), 5);
+            Due.due("short ones", Due.rules(x, 0, "7 to 1 when 1=2;7 to 234;"), 2);
+            Due.due("hold", Due.comes(x, 0, 0), "234");
+            Due.due("a shorter one", Due.rules(x, 0, "7 to none;"), 1);
+            Due.due("holds", Due.comes(x, 0, 0), "");
         }
     }
 }

@@ -108,6 +108,8 @@ public final class ThoughtTest {
         twinIs(x, 0, "314");
         Due.paper(x, "77777");
         twinIs(x, 0, "");
+        Due.seen(x, "44");
+        Due.due("meant after a twin", x.meant(0, 0, 2, 0), 4);
         noTwin(x, "3333");
         noTwin(x, "33331");
         noTwin(x, "12456");
