@@ -27,32 +27,6 @@ public final class ImageTest {
         return x;
     }
 
-    /** All that can be asked, one answer a line. */
-    private static String all(LostSevens x) {
-        StringBuilder all = new StringBuilder();
-        for (int what = 0; what < 14; what++) {
-            if (what != 6) {
-                all.append("tells ").append(what).append(' ').append(x.tells(what)).append('\n');
-            }
-        }
-        for (int line = 0; line < 3; line++) {
-            for (int what = 0; what < 20; what++) {
-                all.append("of ").append(x.of(line, what)).append('\n');
-            }
-        }
-        for (int i = 0; i < x.tells(2); i++) {
-            for (int what = 0; what < 4; what++) {
-                all.append("book ").append(x.book(i, what)).append('\n');
-            }
-        }
-        all.append(Due.message(x, 0)).append(' ').append(Due.message(x, 1)).append(' ')
-                .append(Due.came(x)).append('\n');
-        all.append(x.creep()).append(' ').append(x.cure(0, 0)).append(' ').append(x.cure(0, 1));
-        all.append(' ').append(x.clerks()).append(' ').append(Due.comes(x, 0, 0)).append(' ')
-                .append(Due.comes(x, 1, 1)).append('\n');
-        return all.toString();
-    }
-
     private static void changeAll(LostSevens x) {
         x.undo();
         Due.paper(x, "1878");
@@ -81,12 +55,12 @@ public final class ImageTest {
         Due.due("still there", x.tells(3), 1);
         x.send(0, 0, NONE, NONE, NONE);
         Due.due("taken", x.image(true), true);
-        String before = all(x);
+        String before = Snapshot.held(x);
         for (int i = 0; i < 3; i++) {
             changeAll(x);
-            Due.due("changed", all(x).equals(before), false);
+            Due.due("changed", Snapshot.held(x).equals(before), false);
             Due.due("gone back", x.image(false), true);
-            Due.due("all", all(x), before);
+            Due.due("all", Snapshot.held(x), before);
             Due.due("nothing to undo", x.tells(6), 0);
         }
         LostSevens y = told();
@@ -95,7 +69,7 @@ public final class ImageTest {
         y.day();
         x.send(0, 0, 1, 1, NONE);
         y.send(0, 0, 1, 1, NONE);
-        Due.due("all goes on", all(x), all(y));
+        Due.due("all goes on", Snapshot.held(x), Snapshot.held(y));
     }
 
     private static void whatIsNoPart() {
@@ -118,13 +92,13 @@ public final class ImageTest {
         x.image(true);
         x.day();
         x.image(true);
-        String later = all(x);
+        String later = Snapshot.held(x);
         x.day();
         x.send(1, 1, NONE, NONE, NONE);
         Due.due("undo goes on behind an image", x.image(true) && x.undo(), true);
         x.image(false);
         Due.due("the latest image holds the sending", x.tells(3), 2);
         Due.due("and the day", x.tells(1), 3);
-        Due.due("not what was before", all(x).equals(later), false);
+        Due.due("not what was before", Snapshot.held(x).equals(later), false);
     }
 }
