@@ -26,6 +26,9 @@ public final class TextEdgesTest {
         keywords();
         blanks();
         otherBytes();
+        comparisons();
+        conditionsOfMany();
+        mostWaiting();
         wrapAround();
         partsTowardsNought();
         partsByNought();
@@ -289,6 +292,14 @@ public final class TextEdgesTest {
             faulty("7 to 6 when " + word.toUpperCase() + "=1;", 1, 12);
             faulty("7 to 6 when 1=1" + word + ";", 1, 15);
         }
+        for (char c : "azAZ".toCharArray()) {
+            faulty("7 to" + c + " 6;", 1, 2);
+            faulty("7 " + c + "to 6;", 1, 2);
+        }
+        for (char c : "@[`{".toCharArray()) {
+            faulty("7 to" + c + " 6;", 1, 4);
+        }
+        faulty("7 no 6;", 1, 2);
         faulty("7 to 6 when 1=1 andnot 1=1;", 1, 16);
         faulty("7 to nonewhen 1=1;", 1, 5);
         faulty("7 t", 1, 2);
@@ -320,6 +331,41 @@ public final class TextEdgesTest {
         faulty("7 to 6 when 1<=1;", 1, 14);
         faulty("7 to 6 when 1<>1;", 1, 14);
         faulty("7 to 6 when 1==1;", 1, 14);
+    }
+
+    /** "C = E (< | = | >) E": a number compared with the one below it, itself, the one above. */
+    private static void comparisons() {
+        for (int i = -1; i <= 1; i++) {
+            so(5 + i + "<5", i < 0);
+            so(5 + i + "=5", i == 0);
+            so(5 + i + ">5", i > 0);
+            so("0-" + (5 - i) + "<0-5", i < 0);
+            so("0-" + (5 - i) + ">0-5", i > 0);
+        }
+    }
+
+    /** "B = A {or A}.  A = C {and C}": and binds before or, and not before both. */
+    private static void conditionsOfMany() {
+        so("1=1 and 1=2", false);
+        so("1=2 or 1=1", true);
+        so("1=2 or 1=2", false);
+        so("1=1 or 1=1 and 1=2", true);
+        so("1=2 and 1=1 or 1=1", true);
+        so("(1=1 or 1=1) and 1=2", false);
+        so("not 1=2 and 1=2", false);
+        so("not 1=1 or 1=1", true);
+    }
+
+    /** As much as can be open, begun and not yet worked out at once. */
+    private static void mostWaiting() {
+        String begun = "1=2 or 1=1 and (".repeat(8);
+        so(begun + "1=2 or 1=1 and 7=1+2*3" + ")".repeat(8), true);
+        so(begun + "1=2 or 1=1 and 7=1+2*4" + ")".repeat(8), false);
+        so(begun + "1=2 or 1=1 and 1+2*3=7" + ")".repeat(8), true);
+        String denied = "1=2 or 1=1 and not (".repeat(4);
+        so(denied + "1=2 or 1=1 and 7=1+2*3" + ")".repeat(4), true);
+        so(denied + "1=2 or 1=1 and 7=1+2*4" + ")".repeat(4), false);
+        faulty("7 to 6 when " + begun + "1=2 or 1=1 and (", 3, 12 + 8 * 16 + 15);
     }
 
     /** "Ints, which wrap". */
