@@ -296,7 +296,8 @@ public final class LostSevens {
         if (!world.hasLine(line) || !isFlag(frost) || n < 0 || n > MEANT_LENGTH) {
             return NONE;
         }
-        seeker.seekAll(world, world.lines[line], frost, n);
+        seeker.wantSeen(world);
+        seeker.seek(world, world.lines[line], frost, n);
         if (what == 0) {
             return seeker.found;
         }
@@ -310,7 +311,8 @@ public final class LostSevens {
         if (!world.hasLine(line) || !isFlag(frost)) {
             return NONE;
         }
-        seeker.seekOther(world, world.lines[line], frost);
+        seeker.wantTwin(world, world.lines[line], frost);
+        seeker.seek(world, world.lines[line], frost, MEANT_LENGTH);
         if (seeker.found == 0) {
             return NONE;
         }
@@ -1235,22 +1237,20 @@ public final class LostSevens {
             this.clerk = clerk;
         }
 
-        /** All messages of which what was seen would come. */
-        void seekAll(World world, Line line, int frost, int longest) {
+        /** Next all messages are sought of which what was seen would come. */
+        void wantSeen(World world) {
             wanted.copyFrom(world.seen);
             avoids = false;
-            seek(world, line, frost, longest);
         }
 
-        /** The first message, not the paper, of which the same would come as of the paper. */
-        void seekOther(World world, Line line, int frost) {
+        /** Next one message is sought, not the paper, of which the same would come as of it. */
+        void wantTwin(World world, Line line, int frost) {
             clerk.carry(world, line, frost, world.paper, wanted);
             avoided.copyFrom(world.paper);
             avoids = true;
-            seek(world, line, frost, MEANT_LENGTH);
         }
 
-        private void seek(World world, Line line, int frost, int longest) {
+        void seek(World world, Line line, int frost, int longest) {
             Rules rules = world.rules[line.kind];
             lost = line.lostDigits(frost);
             found = 0;
@@ -1430,7 +1430,9 @@ public final class LostSevens {
 
         private void goTo(World world, int station, int depth, int lost, int been) {
             Line line = world.lines[way[depth]];
-            int allLost = lost + clerk.carry(world, line, line.frost, carried[depth], carried[depth + 1]);
+            clerk.translate(world.rules[line.kind], world.today, line.frost, carried[depth]);
+            int lostHere = carried[depth + 1].keepFrom(clerk.wire, line.lostDigits(line.frost));
+            int allLost = lost + lostHere;
             if (!isBetter(allLost, depth + 1)) {
                 return;
             }
